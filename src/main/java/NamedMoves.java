@@ -508,16 +508,16 @@ public final class NamedMoves {
             return HALF_PLACES - taken;
         }
 
-        int addressOfHalf(int which) {
+        private int addressOfHalf(int which) {
             return which * HALF_STRIDE;
         }
 
-        boolean isInOldHalf(int address) {
+        private boolean isInOldHalf(int address) {
             int place = address - addressOfHalf(1 - half);
             return moving && place >= 0 && place < HALF_PLACES;
         }
 
-        int roomKept() {
+        private int roomKept() {
             int room = 0;
             int start = addressOfHalf(1 - half);
             for (int place = 0; moving && place < HALF_PLACES; place++) {
@@ -528,7 +528,7 @@ public final class NamedMoves {
             return room;
         }
 
-        boolean hasTwins(int thing) {
+        private boolean hasTwins(int thing) {
             int outside = 0;
             for (int address = 0; address < ADDRESSES; address++) {
                 if (copies.isOf(thing, address) && !isInOldHalf(address)) {
@@ -538,7 +538,7 @@ public final class NamedMoves {
             return outside > 1;
         }
 
-        int thingsWithTwins() {
+        private int thingsWithTwins() {
             int things = 0;
             for (int thing = 0; thing < made; thing++) {
                 if (hasTwins(thing)) {
@@ -608,7 +608,7 @@ public final class NamedMoves {
             return made - 1;
         }
 
-        int halfAddressFor(int size) {
+        private int halfAddressFor(int size) {
             return freeInHalf() - size >= roomKept() ? addressOfHalf(half) + taken : EMPTY;
         }
 
@@ -686,7 +686,7 @@ public final class NamedMoves {
             return steps;
         }
 
-        void endMove() {
+        private void endMove() {
             copies.emptyHalf(1 - half);
             copies.sweepFloor();
             moving = false;
@@ -709,7 +709,7 @@ public final class NamedMoves {
             return address;
         }
 
-        int firstWithNote(int thing) {
+        private int firstWithNote(int thing) {
             for (int address = 0; address < ADDRESSES; address++) {
                 if (copies.isOf(thing, address) && copies.noteAt(address) != EMPTY) {
                     return address;
@@ -738,7 +738,7 @@ public final class NamedMoves {
             return gone;
         }
 
-        void replaceHooks(int from, int to) {
+        private void replaceHooks(int from, int to) {
             for (int hook = 0; hook < HOOKS; hook++) {
                 if (hooks[hook] == from) {
                     hooks[hook] = to;
@@ -747,7 +747,7 @@ public final class NamedMoves {
         }
 
         /** Reads the hook or the name that stands in a row; tells the address that it has then. */
-        int readIn(int[] row, int index) {
+        private int readIn(int[] row, int index) {
             if (row == null || index < 0 || index >= row.length) {
                 return EMPTY;
             }
@@ -762,7 +762,7 @@ public final class NamedMoves {
         }
 
         /** Carries the copy of the old half that has this address and size; tells where to. */
-        int carryOver(int address, int size) {
+        private int carryOver(int address, int size) {
             // The room that is kept makes every copy fit; without it, one would stay.
             if (size == 0 || size > freeInHalf()) {
                 return address;
@@ -791,7 +791,7 @@ public final class NamedMoves {
             return held;
         }
 
-        int slotOfDraft() {
+        private int slotOfDraft() {
             return Math.floorMod(first + held, STATE_SLOTS);
         }
 
@@ -848,7 +848,7 @@ public final class NamedMoves {
             }
         }
 
-        boolean isReached(int address) {
+        private boolean isReached(int address) {
             return address >= 0 && address < ADDRESSES && reached[address];
         }
 

@@ -7,7 +7,8 @@ import java.util.TreeMap;
  */
 public final class ModelRunsTest {
     private static final int RUNS = 2500;
-    private static final int CALLS = 512;
+    /** A few below 512, as some turns make two or three calls. */
+    private static final int CALLS = 505;
     private static final String LETTERS = "mlfdbs";
 
     private final Due due = new Due("ModelRuns");
@@ -19,6 +20,8 @@ public final class ModelRunsTest {
     private int call;
     private int mostSize;
     private int hooks;
+    private int lookEvery;
+    private boolean withTexts;
 
     public static void main(String[] args) {
         new ModelRunsTest().compare();
@@ -30,6 +33,8 @@ public final class ModelRunsTest {
             model = new PlainModel();
             mostSize = pick(13) + 1;
             hooks = 2 + pick(7);
+            lookEvery = 2 << pick(4);
+            withTexts = pick(2) == 0;
             for (call = 0; call < CALLS; call++) {
                 one();
             }
@@ -90,7 +95,7 @@ public final class ModelRunsTest {
     }
 
     private void one() {
-        if (pick(2) == 0) {
+        if (pick(lookEvery) == 0) {
             look();
             return;
         }
@@ -132,14 +137,29 @@ public final class ModelRunsTest {
         } else if (what < 85) {
             int thing = thingOf(model.thingsWithTwins());
             same("mend", program.mend(thing), model.act('e', thing), thing);
+        } else if (what < 88) {
+            undoSome(1);
         } else if (what < 89) {
-            same("undo", program.undo(), model.undo());
+            undoSome(1 + pick(6));
+        } else if (!withTexts) {
+            same("begin", program.begin(), model.act('b'));
         } else if (what < 91) {
             same("clearText", program.clearText(), model.clearText());
         } else if (what < 97) {
             addText();
         } else {
             same("run", program.run(), model.run());
+        }
+    }
+
+    private void undoSome(int times) {
+        for (int time = 0; time < times && call < CALLS; time++) {
+            same("undo", program.undo(), model.undo());
+            call++;
+            if (pick(2) == 0) {
+                look();
+                call++;
+            }
         }
     }
 

@@ -5,6 +5,7 @@ public final class MoversTest {
     public static void main(String[] args) {
         begin();
         beginWithNothingNamed();
+        beginManyTimes();
         carry();
         carryThroughTheFloor();
         moveEnds();
@@ -14,6 +15,7 @@ public final class MoversTest {
         mendThree();
         undo();
         undoAMove();
+        undoBehindFailures();
         due.end();
     }
 
@@ -65,6 +67,20 @@ public final class MoversTest {
         x.follow(0, 0, 1);
         due.same("7 read once, then by its note", x.begin(), 1);
         due.same("7 the same", x.hook(1), x.hook(0));
+    }
+
+    private static void beginManyTimes() {
+        NamedMoves x = new NamedMoves();
+        for (int hook = 0; hook < 8; hook++) {
+            x.make(1 + hook, hook);
+        }
+        for (int move = 0; move < 60; move++) {
+            due.same("7 all eight", x.begin(), 8);
+            due.same("7 steps left", x.stepsLeft(), 8);
+            due.same("7 all eight carried", x.carry(99), 8);
+            due.same("7 copies", x.count(1), 8);
+            due.same("7 moves", x.count(9), move + 1);
+        }
     }
 
     private static void carry() {
@@ -305,6 +321,23 @@ public final class MoversTest {
         due.same("11 no redo", x.undo(), -2);
         due.same("11 make", x.make(2, 3), 1);
         due.same("11 anew", x.hook(3), 1);
+    }
+
+    private static void undoBehindFailures() {
+        NamedMoves x = new NamedMoves();
+        for (int number = 0; number < 6; number++) {
+            x.make(1, number);
+        }
+        due.same("11 a call that fails", x.make(13, 0), -1);
+        due.same("11 another one", x.carry(1), -2);
+        x.append('q');
+        due.same("11 a text that fails", x.run(), -1000);
+        for (int left = 4; left >= 0; left--) {
+            due.same("11 failures record nothing", x.undo(), left);
+            due.same("11 nor do they spoil what is kept", x.count(0), left + 1);
+        }
+        due.same("11 an undo that fails", x.undo(), -2);
+        due.same("11 changes nothing", x.count(0), 1);
     }
 
     private static void undoAMove() {
