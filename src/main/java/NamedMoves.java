@@ -343,7 +343,10 @@ public final class NamedMoves {
             if (from < 0 || from >= ADDRESSES || there < 0 || there >= ADDRESSES) {
                 return;
             }
-            lay(there, things[from], sizes[from]);
+            things[there] = things[from];
+            sizes[there] = sizes[from];
+            notes[there] = EMPTY;
+            marks[there] = 0;
             names[there * NAMES] = names[from * NAMES];
             names[there * NAMES + 1] = names[from * NAMES + 1];
             notes[from] = there;
