@@ -121,9 +121,12 @@ public final class LookingTest {
     private static void lookingReadsNothing() {
         NamedMoves x = midst();
         int recorded = x.count(12);
-        for (int address = 0; address < 300; address++) {
-            x.copy(address, 2);
-            x.copy(address, 4);
+        for (int address = 0; address < 10; address++) {
+            for (int what = 0; what < 6; what++) {
+                x.copy(address, what);
+                x.copy(100 + address, what);
+                x.copy(200 + address, what);
+            }
         }
         for (int hook = 0; hook < 8; hook++) {
             x.hook(hook);

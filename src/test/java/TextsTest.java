@@ -89,8 +89,6 @@ public final class TextsTest {
     }
 
     private static void failures() {
-        NamedMoves x = new NamedMoves();
-        x.make(2, 0);
         String[] texts = {
             "x", ";", "m", "m1", "m1,", "m1,0", "m;", "m,", "m1;", "m1,0,", "m1,;", "m01,0;", "m00,0;", "m1,00;",
             "m123,0;", "m10,100;", "m1 ,0;", " m1,0;", "m1,0 ;", "M1,0;", "m1,-1;", "m1,0;;", "m1,0;m", "b", "b1;",
@@ -103,6 +101,8 @@ public final class TextsTest {
             6, 2, 5, 0, 0, 3, 3, 3, 2};
         due.same("14 as many places as texts", texts.length, places.length);
         for (int index = 0; index < texts.length; index++) {
+            NamedMoves x = new NamedMoves();
+            x.make(2, 0);
             runs(x, texts[index], -1000 - places[index]);
             due.same("14 nothing recorded", x.count(12), 1);
             due.same("14 nothing made", x.count(0), 1);
