@@ -47,22 +47,8 @@ public final class ForecastTest {
         due.same("19 a chain of all but five", x.named(6), 35);
     }
 
-    /** Things 0 (1 place) and 1 (2) name thing 2 (3); thing 3 (4) names nothing and is not hung. */
-    private static NamedMoves twoNamers() {
-        NamedMoves x = new NamedMoves();
-        x.make(1, 0);
-        x.make(2, 1);
-        x.make(3, 2);
-        x.make(4, 3);
-        x.link(0, 0, 2);
-        x.link(1, 0, 2);
-        x.drop(2);
-        x.drop(3);
-        return x;
-    }
-
     private static void namedDuringAMove() {
-        NamedMoves x = twoNamers();
+        NamedMoves x = Stores.twoNamers();
         x.begin();
         due.same("19 by an old address", x.named(0), 2);
         x.follow(0, 0, 2);
@@ -80,7 +66,7 @@ public final class ForecastTest {
     }
 
     private static void garbage() {
-        NamedMoves x = twoNamers();
+        NamedMoves x = Stores.twoNamers();
         due.same("20 one thing", x.garbage(), 4);
         x.drop(0);
         due.same("20 two", x.garbage(), 5);
@@ -103,7 +89,7 @@ public final class ForecastTest {
     }
 
     private static void garbageDuringAMove() {
-        NamedMoves x = twoNamers();
+        NamedMoves x = Stores.twoNamers();
         x.begin();
         due.same("20 what has a note is none", x.garbage(), 4);
         x.drop(0);
@@ -124,7 +110,7 @@ public final class ForecastTest {
     }
 
     private static void stepsLeft() {
-        NamedMoves x = twoNamers();
+        NamedMoves x = Stores.twoNamers();
         due.same("21 no move", x.stepsLeft(), -2);
         x.begin();
         due.same("21 three", x.stepsLeft(), 3);
@@ -156,7 +142,7 @@ public final class ForecastTest {
     }
 
     private static void freeThen() {
-        NamedMoves x = twoNamers();
+        NamedMoves x = Stores.twoNamers();
         due.same("22 without a move", x.freeThen(), 58);
         due.same("22 nothing changes", x.count(4), 54);
         due.same("22 no half is changed", x.count(3), 0);
@@ -177,7 +163,7 @@ public final class ForecastTest {
     }
 
     private static void freeThenWithTwins() {
-        NamedMoves x = twoNamers();
+        NamedMoves x = Stores.twoNamers();
         x.begin();
         x.carry(1);
         x.lose(2);
