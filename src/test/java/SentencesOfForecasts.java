@@ -9,7 +9,8 @@ final class SentencesOfForecasts {
                 + " address leads,", SentencesOfForecasts::namedOne);
         of.test("and those to which the names of such copies lead.", SentencesOfForecasts::namedByNames);
         of.test("An address leads to the copy there,", SentencesOfForecasts::namedOldCopies);
-        of.test("but if that has a note, to the copy at the address of the note.", SentencesOfForecasts::namedByNotes);
+        of.test("but if that has a note, to the copy at the address of the note.",
+                SentencesOfForecasts::namedByNotes);
         of.test("- `hook`: 0 to 7", SentencesOfForecasts::namedRange);
         of.test("Returns the number of different things;", SentencesOfForecasts::namedDifferent);
         of.test("INVALID_ARGUMENT if hook is out of range.", SentencesOfForecasts::namedWrong);

@@ -366,7 +366,6 @@ final class SentencesOfLooking {
         for (int hook = 0; hook < 6; hook++) {
             z.drop(hook);
         }
-        z.make(6, 0);
         z.setHeavy(6);
         z.make(6, 0);
         z.begin();
@@ -548,7 +547,8 @@ final class SentencesOfLooking {
 
     private static void copyAddresses(Due due) {
         NamedMoves x = Stores.midMove();
-        for (int wrong : new int[] {Integer.MIN_VALUE, -200, -100, -1, 64, 99, 164, 199, 260, 300, Integer.MAX_VALUE}) {
+        int[] none = {Integer.MIN_VALUE, -200, -100, -1, 64, 99, 164, 199, 260, 300, Integer.MAX_VALUE};
+        for (int wrong : none) {
             for (int what = 0; what < 6; what++) {
                 due.same("copy(" + wrong + ", " + what + ")", x.copy(wrong, what), -1);
             }

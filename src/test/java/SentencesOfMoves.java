@@ -518,6 +518,21 @@ final class SentencesOfMoves {
         x.begin();
         x.carry(99);
         due.same("one twin is garbage", x.count(10), 0);
+        due.same("one of two at address 0", twinAtAddressZero().count(10), 1);
+        due.same("it stays", twinAtAddressZero().mend(0), 1);
+    }
+
+    /** Thing 0 on hook 0 has copies at 0 and 2, and thing 1 at 1, on hook 1, names the second one. */
+    private static NamedMoves twinAtAddressZero() {
+        NamedMoves x = new NamedMoves();
+        x.begin();
+        x.make(1, 0);
+        x.make(1, 1);
+        x.link(1, 0, 0);
+        x.begin();
+        x.lose(0);
+        x.carry(99);
+        return x;
     }
 
     private static void mendedWhileNoMoveGoesOn(Due due) {
@@ -562,8 +577,9 @@ final class SentencesOfMoves {
         y.carry(99);
         y.follow(1, 0, 7);
         y.link(0, 0, 7);
-        y.make(1, 0);
+        y.follow(1, 0, 0);
         due.same("mend in half 0", y.mend(2), 1);
+        due.same("the first hook", y.hook(0), 3);
         due.same("the last hook", y.hook(7), 3);
         due.same("the first name of the copy at address 0", y.copy(0, 4), 3);
         due.same("the one of thing 1", y.copy(1, 4), 3);

@@ -289,6 +289,15 @@ final class SentencesOfTexts {
         due.same("80 characters and no end", x.run(), -1080);
         NamedMoves y = Stores.withText(new NamedMoves(), "b;".repeat(39) + "b");
         due.same("79 characters and no end", y.run(), -1079);
+        NamedMoves z = Stores.withText(new NamedMoves(), "d0;d1;");
+        for (int length = 1; length <= 5; length++) {
+            int answer = length == 3 ? 1 : -1000 - length;
+            due.same("what was cleared is missing", Stores.withText(z, "d0;d1;".substring(0, length)).run(), answer);
+            Stores.withText(z, "d0;d1;");
+            due.same("the whole text", z.run(), 2);
+            z.append('d');
+            due.same("what was run is missing", z.run(), -1001);
+        }
     }
 
     private static void nothingStays(Due due) {
